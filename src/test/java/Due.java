@@ -1,0 +1,70 @@
+/** Counts the calls of one test whose answer is not the one that is due. */
+final class Due {
+    interface Call {
+        Object answer();
+    }
+
+    static final Class<? extends RuntimeException> NO_PLACE = IndexOutOfBoundsException.class;
+    static final Class<? extends RuntimeException> NO_ARGUMENT = IllegalArgumentException.class;
+    static final Class<? extends RuntimeException> TOO_LONG = IllegalStateException.class;
+
+    private int calls;
+    private int wrong;
+
+    void is(String told, Object want, Object got) {
+        calls++;
+        if (!want.equals(got)) {
+            wrong++;
+            System.out.println(told + " answered <" + got + ">, due is <" + want + ">");
+        }
+    }
+
+    /** The call throws just that exception, and nothing of the ropes changes by it. */
+    void refuses(Signrope ropes, String told, Class<? extends RuntimeException> want, Call call) {
+        String before = stateOf(ropes);
+        Object got;
+        try {
+            got = call.answer();
+        } catch (RuntimeException thrown) {
+            got = thrown.getClass();
+        }
+        is(told, want, got);
+        is(told + " leaves", before, stateOf(ropes));
+    }
+
+    static String stateOf(Signrope ropes) {
+        StringBuilder state = new StringBuilder();
+        for (int rope = 0; rope < 4; rope++) {
+            state.append(rope).append('=').append(ropes.text(rope)).append(' ');
+        }
+        for (int what = 0; what < 5; what++) {
+            state.append("house ").append(ropes.house(what)).append(' ');
+        }
+        return state.toString();
+    }
+
+    /** An object whose ropes 0 to 3 bear the words. */
+    static Signrope ropesOf(int word0, int word1, int word2, int word3) {
+        Signrope ropes = new Signrope();
+        int[] words = {word0, word1, word2, word3};
+        for (int rope = 0; rope < words.length; rope++) {
+            ropes.begin(rope, words[rope]);
+        }
+        return ropes;
+    }
+
+    /** A rope is begun with that many signs: "abcabc" again and again. */
+    static void fill(Signrope ropes, int rope, int signs) {
+        ropes.begin(rope, 0);
+        for (int k = 0; k < signs; k++) {
+            ropes.sign(rope, 'a' + k % 3);
+        }
+    }
+
+    void end() {
+        System.out.println(calls - wrong + " answers as due, " + wrong + " not");
+        if (wrong != 0) {
+            System.exit(1);
+        }
+    }
+}
