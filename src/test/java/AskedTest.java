@@ -1,8 +1,6 @@
 /** Promises 33 to 44: what is asked. */
 public final class AskedTest {
     private static final Due due = new Due();
-    private static final int[] NO_ROPES = {-1, 4, Integer.MIN_VALUE, Integer.MAX_VALUE};
-    private static final int[] NO_WORDS = {-1, 70, Integer.MIN_VALUE, Integer.MAX_VALUE};
 
     public static void main(String[] args) {
         textAndLength();
@@ -34,10 +32,8 @@ public final class AskedTest {
             due.is("33: each sign", place + 16, (int) ropes.text(0).charAt(place));
         }
         due.is("34: a full one", 240, ropes.length(0));
-        for (int rope : NO_ROPES) {
-            due.refuses(ropes, "33: text of " + rope, Due.NO_PLACE, () -> ropes.text(rope));
-            due.refuses(ropes, "34: length of " + rope, Due.NO_PLACE, () -> ropes.length(rope));
-        }
+        due.refusesEach(ropes, "33: text of", Due.NO_PLACE, Due.NO_ROPES, rope -> ropes.text(rope));
+        due.refusesEach(ropes, "34: length of", Due.NO_PLACE, Due.NO_ROPES, rope -> ropes.length(rope));
     }
 
     private static void at() {
@@ -46,12 +42,9 @@ public final class AskedTest {
         due.is("35: the first", 97, ropes.at(0, 0));
         due.is("35: within", 99, ropes.at(0, 2));
         due.is("35: the last", 255, ropes.at(0, 5));
-        for (int rope : NO_ROPES) {
-            due.refuses(ropes, "35: of rope " + rope, Due.NO_PLACE, () -> ropes.at(rope, 0));
-        }
-        for (int place : new int[] {-1, 6, Integer.MIN_VALUE, Integer.MAX_VALUE}) {
-            due.refuses(ropes, "35: at " + place, Due.NO_PLACE, () -> ropes.at(0, place));
-        }
+        due.refusesEach(ropes, "35: of rope", Due.NO_PLACE, Due.NO_ROPES, rope -> ropes.at(rope, 0));
+        due.refusesEach(ropes, "35: at", Due.NO_PLACE, new int[] {-1, 6, Integer.MIN_VALUE, Integer.MAX_VALUE},
+            place -> ropes.at(0, place));
         due.refuses(ropes, "35: of an empty one", Due.NO_PLACE, () -> ropes.at(1, 0));
     }
 
@@ -62,10 +55,8 @@ public final class AskedTest {
         due.is("36: none", "", ropes.part(0, 3, 3));
         due.is("36: none at the end", "", ropes.part(0, 6, 6));
         due.is("36: of an empty one", "", ropes.part(1, 0, 0));
-        for (int rope : NO_ROPES) {
-            due.refuses(ropes, "36: of rope " + rope, Due.NO_PLACE, () -> ropes.part(rope, 1, 0));
-        }
-        for (int[] part : new int[][] {{-1, 2}, {0, 7}, {3, 2}, {7, 7}, {Integer.MIN_VALUE, Integer.MAX_VALUE}}) {
+        due.refusesEach(ropes, "36: of rope", Due.NO_PLACE, Due.NO_ROPES, rope -> ropes.part(rope, 1, 0));
+        for (int[] part : Due.NO_PARTS_OF_SIX) {
             due.refuses(ropes, "36: no part " + part[0] + " " + part[1], Due.NO_ARGUMENT,
                 () -> ropes.part(0, part[0], part[1]));
         }
@@ -77,12 +68,9 @@ public final class AskedTest {
         due.is("37: all", "abcabc", ropes.rest(0, 0));
         due.is("37: none", "", ropes.rest(0, 6));
         due.is("37: of an empty one", "", ropes.rest(1, 0));
-        for (int rope : NO_ROPES) {
-            due.refuses(ropes, "37: of rope " + rope, Due.NO_PLACE, () -> ropes.rest(rope, -1));
-        }
-        for (int from : new int[] {-1, 7, Integer.MIN_VALUE, Integer.MAX_VALUE}) {
-            due.refuses(ropes, "37: from " + from, Due.NO_ARGUMENT, () -> ropes.rest(0, from));
-        }
+        due.refusesEach(ropes, "37: of rope", Due.NO_PLACE, Due.NO_ROPES, rope -> ropes.rest(rope, -1));
+        due.refusesEach(ropes, "37: from", Due.NO_ARGUMENT, new int[] {-1, 7, Integer.MIN_VALUE, Integer.MAX_VALUE},
+            from -> ropes.rest(0, from));
     }
 
     private static void find() {
@@ -105,12 +93,8 @@ public final class AskedTest {
         ropes.delete(2, 0, 2);
         due.is("38: lying over itself", 2, ropes.find(2, 62, true));
         due.is("38: no act", 6, ropes.house(4));
-        for (int rope : NO_ROPES) {
-            due.refuses(ropes, "38: of rope " + rope, Due.NO_PLACE, () -> ropes.find(rope, 70, true));
-        }
-        for (int word : NO_WORDS) {
-            due.refuses(ropes, "38: word " + word, Due.NO_ARGUMENT, () -> ropes.find(0, word, false));
-        }
+        due.refusesEach(ropes, "38: of rope", Due.NO_PLACE, Due.NO_ROPES, rope -> ropes.find(rope, 70, true));
+        due.refusesEach(ropes, "38: word", Due.NO_ARGUMENT, Due.NO_WORDS, word -> ropes.find(0, word, false));
     }
 
     private static void findFrom() {
@@ -133,12 +117,8 @@ public final class AskedTest {
         }
         due.is("39: a longer word", -1, ropes.findFrom(1, 3, 5, true));
         due.is("39: a longer word", -1, ropes.findFrom(1, 3, 5, false));
-        for (int rope : NO_ROPES) {
-            due.refuses(ropes, "39: of rope " + rope, Due.NO_PLACE, () -> ropes.findFrom(rope, 70, 0, true));
-        }
-        for (int word : NO_WORDS) {
-            due.refuses(ropes, "39: word " + word, Due.NO_ARGUMENT, () -> ropes.findFrom(0, word, 0, false));
-        }
+        due.refusesEach(ropes, "39: of rope", Due.NO_PLACE, Due.NO_ROPES, rope -> ropes.findFrom(rope, 70, 0, true));
+        due.refusesEach(ropes, "39: word", Due.NO_ARGUMENT, Due.NO_WORDS, word -> ropes.findFrom(0, word, 0, false));
     }
 
     private static void nothing() {
@@ -150,10 +130,8 @@ public final class AskedTest {
         due.is("42: compareNothing", -9, ropes.compareNothing(3));
         due.is("42: told four times", 4, ropes.house(2));
         due.is("40, 42: nothing else changes", "abcabc 4", ropes.text(0) + " " + ropes.house(4));
-        for (int rope : NO_ROPES) {
-            due.refuses(ropes, "40: of rope " + rope, Due.NO_PLACE, () -> ropes.findNothing(rope, true));
-            due.refuses(ropes, "42: of rope " + rope, Due.NO_PLACE, () -> ropes.compareNothing(rope));
-        }
+        due.refusesEach(ropes, "40: of rope", Due.NO_PLACE, Due.NO_ROPES, rope -> ropes.findNothing(rope, true));
+        due.refusesEach(ropes, "42: of rope", Due.NO_PLACE, Due.NO_ROPES, rope -> ropes.compareNothing(rope));
     }
 
     private static void compare() {
@@ -171,10 +149,8 @@ public final class AskedTest {
         due.is("41: 255 is greater", 1, ropes.compare(2, 1));
         ropes.setSign(2, 0, 0);
         due.is("41: 0 is less", -1, ropes.compare(2, 1));
-        for (int rope : NO_ROPES) {
-            due.refuses(ropes, "41: of rope " + rope, Due.NO_PLACE, () -> ropes.compare(rope, 0));
-            due.refuses(ropes, "41: to rope " + rope, Due.NO_PLACE, () -> ropes.compare(0, rope));
-        }
+        due.refusesEach(ropes, "41: of rope", Due.NO_PLACE, Due.NO_ROPES, rope -> ropes.compare(rope, 0));
+        due.refusesEach(ropes, "41: to rope", Due.NO_PLACE, Due.NO_ROPES, rope -> ropes.compare(0, rope));
     }
 
     private static void hash() {
@@ -185,9 +161,7 @@ public final class AskedTest {
             ropes.sign(2, 255 - k);
         }
         due.is("43: wrapping around", ropes.text(2).hashCode(), ropes.hash(2));
-        for (int rope : NO_ROPES) {
-            due.refuses(ropes, "43: of rope " + rope, Due.NO_PLACE, () -> ropes.hash(rope));
-        }
+        due.refusesEach(ropes, "43: of rope", Due.NO_PLACE, Due.NO_ROPES, rope -> ropes.hash(rope));
     }
 
     private static void wordText() {
@@ -203,8 +177,6 @@ public final class AskedTest {
             due.is("44: word " + (60 + k), named[k], ropes.wordText(60 + k));
         }
         due.is("44: no act", 0, ropes.house(4));
-        for (int word : NO_WORDS) {
-            due.refuses(ropes, "44: word " + word, Due.NO_ARGUMENT, () -> ropes.wordText(word));
-        }
+        due.refusesEach(ropes, "44: word", Due.NO_ARGUMENT, Due.NO_WORDS, word -> ropes.wordText(word));
     }
 }

@@ -36,12 +36,8 @@ public final class BegunTest {
         due.is("2: the last rope", 0, ropes.begin(3, 62));
         due.is("2: the last rope's text", "abab", ropes.text(3));
         due.is("2: acts", 4, ropes.house(4));
-        for (int rope : new int[] {-1, 4, Integer.MIN_VALUE, Integer.MAX_VALUE}) {
-            due.refuses(ropes, "2: begin at " + rope, Due.NO_PLACE, () -> ropes.begin(rope, 1));
-        }
-        for (int word : new int[] {-1, 70, Integer.MIN_VALUE, Integer.MAX_VALUE}) {
-            due.refuses(ropes, "2: begin with " + word, Due.NO_ARGUMENT, () -> ropes.begin(3, word));
-        }
+        due.refusesEach(ropes, "2: begin at", Due.NO_PLACE, Due.NO_ROPES, rope -> ropes.begin(rope, 1));
+        due.refusesEach(ropes, "2: begin with", Due.NO_ARGUMENT, Due.NO_WORDS, word -> ropes.begin(3, word));
         due.refuses(ropes, "2: both wrong", Due.NO_PLACE, () -> ropes.begin(4, 70));
     }
 
@@ -56,10 +52,8 @@ public final class BegunTest {
         due.is("3: as an empty one", 6, ropes.beginAs(1, 2));
         due.is("3: empty", "", ropes.text(1));
         due.is("3: acts", 8, ropes.house(4));
-        for (int rope : new int[] {-1, 4}) {
-            due.refuses(ropes, "3: beginAs at " + rope, Due.NO_PLACE, () -> ropes.beginAs(rope, 0));
-            due.refuses(ropes, "3: beginAs of " + rope, Due.NO_PLACE, () -> ropes.beginAs(0, rope));
-        }
+        due.refusesEach(ropes, "3: beginAs at", Due.NO_PLACE, Due.NO_ROPES, rope -> ropes.beginAs(rope, 0));
+        due.refusesEach(ropes, "3: beginAs of", Due.NO_PLACE, Due.NO_ROPES, rope -> ropes.beginAs(0, rope));
     }
 
     private static void ensure() {
@@ -69,9 +63,8 @@ public final class BegunTest {
             due.is("4: ensure " + many, 6, ropes.ensure(0, many));
             due.is("4: nothing shows", before, Due.stateOf(ropes));
         }
-        for (int many : new int[] {-10, 501, Integer.MIN_VALUE, Integer.MAX_VALUE}) {
-            due.refuses(ropes, "4: ensure " + many, Due.NO_ARGUMENT, () -> ropes.ensure(0, many));
-        }
+        due.refusesEach(ropes, "4: ensure", Due.NO_ARGUMENT, new int[] {-10, 501, Integer.MIN_VALUE, Integer.MAX_VALUE},
+            many -> ropes.ensure(0, many));
         due.refuses(ropes, "4: ensure at -1", Due.NO_PLACE, () -> ropes.ensure(-1, 0));
         due.refuses(ropes, "4: ensure at 4", Due.NO_PLACE, () -> ropes.ensure(4, 501));
     }

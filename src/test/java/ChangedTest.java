@@ -1,7 +1,6 @@
 /** Promises 26 to 32: what is changed. */
 public final class ChangedTest {
     private static final Due due = new Due();
-    private static final int[] NO_ROPES = {-1, 4, Integer.MIN_VALUE, Integer.MAX_VALUE};
 
     public static void main(String[] args) {
         replace();
@@ -27,13 +26,9 @@ public final class ChangedTest {
         due.is("26: at the end and behind", 6, ropes.replace(0, 5, Integer.MAX_VALUE, 5));
         due.is("26: all", 0, ropes.replace(0, 0, 6, 0));
         due.is("26: acts", 11, ropes.house(4));
-        for (int rope : NO_ROPES) {
-            due.refuses(ropes, "26: at rope " + rope, Due.NO_PLACE, () -> ropes.replace(rope, 0, 0, 70));
-        }
+        due.refusesEach(ropes, "26: at rope", Due.NO_PLACE, Due.NO_ROPES, rope -> ropes.replace(rope, 0, 0, 70));
         ropes.begin(0, 69);
-        for (int word : new int[] {-1, 70, Integer.MIN_VALUE, Integer.MAX_VALUE}) {
-            due.refuses(ropes, "26: word " + word, Due.NO_ARGUMENT, () -> ropes.replace(0, 0, 6, word));
-        }
+        due.refusesEach(ropes, "26: word", Due.NO_ARGUMENT, Due.NO_WORDS, word -> ropes.replace(0, 0, 6, word));
         wrongCuts("26: replace", ropes, (from, to) -> ropes.replace(0, from, to, 1));
         Due.fill(ropes, 0, 239);
         due.refuses(ropes, "26: too long", Due.TOO_LONG, () -> ropes.replace(0, 4, 5, 3));
@@ -54,10 +49,8 @@ public final class ChangedTest {
         due.is("27: text", "a{}", ropes.text(0));
         due.is("27: the other one stays", "{}", ropes.text(1));
         due.is("27: acts", 8, ropes.house(4));
-        for (int rope : NO_ROPES) {
-            due.refuses(ropes, "27: at rope " + rope, Due.NO_PLACE, () -> ropes.replaceBy(rope, -1, 0, 1));
-            due.refuses(ropes, "27: by rope " + rope, Due.NO_PLACE, () -> ropes.replaceBy(0, -1, 0, rope));
-        }
+        due.refusesEach(ropes, "27: at rope", Due.NO_PLACE, Due.NO_ROPES, rope -> ropes.replaceBy(rope, -1, 0, 1));
+        due.refusesEach(ropes, "27: by rope", Due.NO_PLACE, Due.NO_ROPES, rope -> ropes.replaceBy(0, -1, 0, rope));
         wrongCuts("27: replaceBy", ropes, (from, to) -> ropes.replaceBy(0, from, to, 1));
         Due.fill(ropes, 0, 121);
         due.refuses(ropes, "27: too long", Due.TOO_LONG, () -> ropes.replaceBy(0, 7, 8, 0));
@@ -75,9 +68,7 @@ public final class ChangedTest {
         due.is("28: all", 0, ropes.delete(0, 0, 3));
         due.is("28: of an empty one", 0, ropes.delete(0, 0, 0));
         due.is("28: acts", 10, ropes.house(4));
-        for (int rope : NO_ROPES) {
-            due.refuses(ropes, "28: at rope " + rope, Due.NO_PLACE, () -> ropes.delete(rope, 1, 0));
-        }
+        due.refusesEach(ropes, "28: at rope", Due.NO_PLACE, Due.NO_ROPES, rope -> ropes.delete(rope, 1, 0));
         ropes.begin(0, 69);
         wrongCuts("28: delete", ropes, (from, to) -> ropes.delete(0, from, to));
     }
@@ -89,12 +80,9 @@ public final class ChangedTest {
         due.is("29: the last", 3, ropes.deleteAt(0, 3));
         due.is("29: text", "bcb", ropes.text(0));
         due.is("29: acts", 7, ropes.house(4));
-        for (int rope : NO_ROPES) {
-            due.refuses(ropes, "29: at rope " + rope, Due.NO_PLACE, () -> ropes.deleteAt(rope, 0));
-        }
-        for (int at : new int[] {-1, 3, Integer.MIN_VALUE, Integer.MAX_VALUE}) {
-            due.refuses(ropes, "29: at " + at, Due.NO_PLACE, () -> ropes.deleteAt(0, at));
-        }
+        due.refusesEach(ropes, "29: at rope", Due.NO_PLACE, Due.NO_ROPES, rope -> ropes.deleteAt(rope, 0));
+        due.refusesEach(ropes, "29: at", Due.NO_PLACE, new int[] {-1, 3, Integer.MIN_VALUE, Integer.MAX_VALUE},
+            at -> ropes.deleteAt(0, at));
         due.refuses(ropes, "29: of an empty one", Due.NO_PLACE, () -> ropes.deleteAt(1, 0));
     }
 
@@ -106,15 +94,10 @@ public final class ChangedTest {
         due.is("30: the same", 98, ropes.setSign(0, 1, 'b'));
         due.is("30: text", "\000bcabz", ropes.text(0));
         due.is("30: acts", 8, ropes.house(4));
-        for (int rope : NO_ROPES) {
-            due.refuses(ropes, "30: at rope " + rope, Due.NO_PLACE, () -> ropes.setSign(rope, 0, 256));
-        }
-        for (int at : new int[] {-1, 6, Integer.MIN_VALUE, Integer.MAX_VALUE}) {
-            due.refuses(ropes, "30: at " + at, Due.NO_PLACE, () -> ropes.setSign(0, at, 256));
-        }
-        for (int code : new int[] {-1, 256, Integer.MIN_VALUE, Integer.MAX_VALUE}) {
-            due.refuses(ropes, "30: sign " + code, Due.NO_ARGUMENT, () -> ropes.setSign(0, 0, code));
-        }
+        due.refusesEach(ropes, "30: at rope", Due.NO_PLACE, Due.NO_ROPES, rope -> ropes.setSign(rope, 0, 256));
+        due.refusesEach(ropes, "30: at", Due.NO_PLACE, new int[] {-1, 6, Integer.MIN_VALUE, Integer.MAX_VALUE},
+            at -> ropes.setSign(0, at, 256));
+        due.refusesEach(ropes, "30: sign", Due.NO_ARGUMENT, Due.NO_CODES, code -> ropes.setSign(0, 0, code));
     }
 
     private static void turn() {
@@ -128,9 +111,7 @@ public final class ChangedTest {
         due.is("31: text", "a", ropes.text(2));
         due.is("31: none", 0, ropes.turn(3));
         due.is("31: acts", 9, ropes.house(4));
-        for (int rope : NO_ROPES) {
-            due.refuses(ropes, "31: at rope " + rope, Due.NO_PLACE, () -> ropes.turn(rope));
-        }
+        due.refusesEach(ropes, "31: at rope", Due.NO_PLACE, Due.NO_ROPES, rope -> ropes.turn(rope));
     }
 
     private static void setLength() {
@@ -144,13 +125,11 @@ public final class ChangedTest {
         due.is("32: length", 240, ropes.length(0));
         due.is("32: the last sign", 0, ropes.at(0, 239));
         due.is("32: none", 240, ropes.setLength(0, 0));
+        due.is("32: empty", "", ropes.text(0));
         due.is("32: acts", 9, ropes.house(4));
-        for (int rope : NO_ROPES) {
-            due.refuses(ropes, "32: at rope " + rope, Due.NO_PLACE, () -> ropes.setLength(rope, -1));
-        }
-        for (int length : new int[] {-1, 241, Integer.MIN_VALUE, Integer.MAX_VALUE}) {
-            due.refuses(ropes, "32: length " + length, Due.NO_ARGUMENT, () -> ropes.setLength(0, length));
-        }
+        due.refusesEach(ropes, "32: at rope", Due.NO_PLACE, Due.NO_ROPES, rope -> ropes.setLength(rope, -1));
+        due.refusesEach(ropes, "32: length", Due.NO_ARGUMENT, new int[] {-1, 241, Integer.MIN_VALUE, Integer.MAX_VALUE},
+            length -> ropes.setLength(0, length));
     }
 
     interface CallOfCut {

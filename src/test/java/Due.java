@@ -4,9 +4,20 @@ final class Due {
         Object answer();
     }
 
+    interface CallOf {
+        Object answer(int number);
+    }
+
     static final Class<? extends RuntimeException> NO_PLACE = IndexOutOfBoundsException.class;
     static final Class<? extends RuntimeException> NO_ARGUMENT = IllegalArgumentException.class;
     static final Class<? extends RuntimeException> TOO_LONG = IllegalStateException.class;
+
+    static final int[] NO_ROPES = {-1, 4, Integer.MIN_VALUE, Integer.MAX_VALUE};
+    static final int[] NO_WORDS = {-1, 70, Integer.MIN_VALUE, Integer.MAX_VALUE};
+    static final int[] NO_CODES = {-1, 256, Integer.MIN_VALUE, Integer.MAX_VALUE};
+    /** Pairs of places that tell no part of "abcabc". */
+    static final int[][] NO_PARTS_OF_SIX = {
+        {-1, 2}, {0, 7}, {3, 2}, {7, 7}, {Integer.MIN_VALUE, Integer.MAX_VALUE}};
 
     private int calls;
     private int wrong;
@@ -30,6 +41,12 @@ final class Due {
         }
         is(told, want, got);
         is(told + " leaves", before, stateOf(ropes));
+    }
+
+    void refusesEach(Signrope ropes, String told, Class<? extends RuntimeException> want, int[] numbers, CallOf call) {
+        for (int number : numbers) {
+            refuses(ropes, told + " " + number, want, () -> call.answer(number));
+        }
     }
 
     static String stateOf(Signrope ropes) {

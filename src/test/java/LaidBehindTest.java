@@ -24,8 +24,8 @@ public final class LaidBehindTest {
         due.is("5: empty word", 6, ropes.word(0, 0));
         due.is("5: text", "abccde", ropes.text(0));
         due.is("5: acts", 3, ropes.house(4));
-        wrongRopes("5: word", ropes, rope -> ropes.word(rope, 70));
-        wrongWords("5: word", ropes, word -> ropes.word(0, word));
+        due.refusesEach(ropes, "5: word", Due.NO_PLACE, Due.NO_ROPES, rope -> ropes.word(rope, 70));
+        due.refusesEach(ropes, "5: word", Due.NO_ARGUMENT, Due.NO_WORDS, word -> ropes.word(0, word));
         Due.fill(ropes, 0, 238);
         due.refuses(ropes, "5: wrong word ahead of too long", Due.NO_ARGUMENT, () -> ropes.word(0, 70));
         due.refuses(ropes, "5: too long", Due.TOO_LONG, () -> ropes.word(0, 3));
@@ -41,10 +41,8 @@ public final class LaidBehindTest {
         due.is("6: sign", 3, ropes.sign(0, 'x'));
         due.is("6: text", "\000\377x", ropes.text(0));
         due.is("6: acts", 3, ropes.house(4));
-        wrongRopes("6: sign", ropes, rope -> ropes.sign(rope, 256));
-        for (int code : new int[] {-1, 256, Integer.MIN_VALUE, Integer.MAX_VALUE}) {
-            due.refuses(ropes, "6: sign " + code, Due.NO_ARGUMENT, () -> ropes.sign(0, code));
-        }
+        due.refusesEach(ropes, "6: sign", Due.NO_PLACE, Due.NO_ROPES, rope -> ropes.sign(rope, 256));
+        due.refusesEach(ropes, "6: sign", Due.NO_ARGUMENT, Due.NO_CODES, code -> ropes.sign(0, code));
         Due.fill(ropes, 0, 240);
         due.refuses(ropes, "6: too long", Due.TOO_LONG, () -> ropes.sign(0, 0));
         due.refuses(ropes, "6: wrong sign ahead of too long", Due.NO_ARGUMENT, () -> ropes.sign(0, 256));
@@ -57,10 +55,9 @@ public final class LaidBehindTest {
         due.is("7: point", 3, ropes.point(0, 'A'));
         due.is("7: text", "\000\177A", ropes.text(0));
         due.is("7: acts", 3, ropes.house(4));
-        wrongRopes("7: point", ropes, rope -> ropes.point(rope, 128));
-        for (int code : new int[] {-1, 128, 255, Integer.MIN_VALUE, Integer.MAX_VALUE}) {
-            due.refuses(ropes, "7: point " + code, Due.NO_ARGUMENT, () -> ropes.point(0, code));
-        }
+        due.refusesEach(ropes, "7: point", Due.NO_PLACE, Due.NO_ROPES, rope -> ropes.point(rope, 128));
+        due.refusesEach(ropes, "7: point", Due.NO_ARGUMENT, new int[] {-1, 128, 255, Integer.MIN_VALUE, Integer.MAX_VALUE},
+            code -> ropes.point(0, code));
         Due.fill(ropes, 0, 240);
         due.refuses(ropes, "7: too long", Due.TOO_LONG, () -> ropes.point(0, 0));
         due.refuses(ropes, "7: wrong code ahead of too long", Due.NO_ARGUMENT, () -> ropes.point(0, 128));
@@ -74,7 +71,7 @@ public final class LaidBehindTest {
             due.is("8: text", "a" + number, ropes.text(0));
         }
         due.is("8: acts", 22, ropes.house(4));
-        wrongRopes("8: number", ropes, rope -> ropes.number(rope, 0));
+        due.refusesEach(ropes, "8: number", Due.NO_PLACE, Due.NO_ROPES, rope -> ropes.number(rope, 0));
         Due.fill(ropes, 0, 238);
         due.refuses(ropes, "8: too long", Due.TOO_LONG, () -> ropes.number(0, -10));
         due.is("8: just full", 240, ropes.number(0, -1));
@@ -94,7 +91,7 @@ public final class LaidBehindTest {
             due.is("9: text", "a" + texts[k], ropes.text(0));
         }
         due.is("9: acts", 24, ropes.house(4));
-        wrongRopes("9: longNumber", ropes, rope -> ropes.longNumber(rope, 0, 0));
+        due.refusesEach(ropes, "9: longNumber", Due.NO_PLACE, Due.NO_ROPES, rope -> ropes.longNumber(rope, 0, 0));
         Due.fill(ropes, 0, 220);
         due.is("9: just full", 240, ropes.longNumber(0, -2147483648, 0));
         due.refuses(ropes, "9: full", Due.TOO_LONG, () -> ropes.longNumber(0, 0, 0));
@@ -108,7 +105,7 @@ public final class LaidBehindTest {
         due.is("10: truth", 9, ropes.truth(0, false));
         due.is("10: text", "truefalse", ropes.text(0));
         due.is("10: acts", 2, ropes.house(4));
-        wrongRopes("10: truth", ropes, rope -> ropes.truth(rope, true));
+        due.refusesEach(ropes, "10: truth", Due.NO_PLACE, Due.NO_ROPES, rope -> ropes.truth(rope, true));
         Due.fill(ropes, 0, 236);
         due.refuses(ropes, "10: too long", Due.TOO_LONG, () -> ropes.truth(0, false));
         due.is("10: just full", 240, ropes.truth(0, true));
@@ -121,8 +118,8 @@ public final class LaidBehindTest {
         due.is("11: empty row", 12, ropes.row(0, 4));
         due.is("11: text", "abcabcabcabc", ropes.text(0));
         due.is("11: acts", 3, ropes.house(4));
-        wrongRopes("11: row", ropes, rope -> ropes.row(rope, 70));
-        wrongWords("11: row", ropes, word -> ropes.row(0, word));
+        due.refusesEach(ropes, "11: row", Due.NO_PLACE, Due.NO_ROPES, rope -> ropes.row(rope, 70));
+        due.refusesEach(ropes, "11: row", Due.NO_ARGUMENT, Due.NO_WORDS, word -> ropes.row(0, word));
         Due.fill(ropes, 0, 236);
         due.refuses(ropes, "11: too long", Due.TOO_LONG, () -> ropes.row(0, 69));
         due.is("11: just full", 240, ropes.row(0, 67));
@@ -137,9 +134,9 @@ public final class LaidBehindTest {
         due.is("12: part of the empty word", 6, ropes.rowPart(0, 0, 0, 0));
         due.is("12: text", "nulbc}", ropes.text(0));
         due.is("12: acts", 5, ropes.house(4));
-        wrongRopes("12: rowPart", ropes, rope -> ropes.rowPart(rope, 70, 0, 0));
-        wrongWords("12: rowPart", ropes, word -> ropes.rowPart(0, word, 0, 0));
-        for (int[] part : new int[][] {{-1, 2}, {0, 7}, {3, 2}, {7, 7}, {Integer.MIN_VALUE, Integer.MAX_VALUE}}) {
+        due.refusesEach(ropes, "12: rowPart", Due.NO_PLACE, Due.NO_ROPES, rope -> ropes.rowPart(rope, 70, 0, 0));
+        due.refusesEach(ropes, "12: rowPart", Due.NO_ARGUMENT, Due.NO_WORDS, word -> ropes.rowPart(0, word, 0, 0));
+        for (int[] part : Due.NO_PARTS_OF_SIX) {
             due.refuses(ropes, "12: no part " + part[0] + " " + part[1], Due.NO_ARGUMENT,
                 () -> ropes.rowPart(0, 69, part[0], part[1]));
         }
@@ -156,7 +153,7 @@ public final class LaidBehindTest {
         due.is("13: text", "nullnull", ropes.text(0));
         due.is("13: acts", 2, ropes.house(4));
         due.is("13: not refused", 0, ropes.house(2));
-        wrongRopes("13: nothing", ropes, rope -> ropes.nothing(rope, true));
+        due.refusesEach(ropes, "13: nothing", Due.NO_PLACE, Due.NO_ROPES, rope -> ropes.nothing(rope, true));
         Due.fill(ropes, 0, 237);
         due.refuses(ropes, "13: too long", Due.TOO_LONG, () -> ropes.nothing(0, true));
         due.refuses(ropes, "13: too long", Due.TOO_LONG, () -> ropes.nothing(0, false));
@@ -170,8 +167,8 @@ public final class LaidBehindTest {
         due.is("14: text", "abcbabcb", ropes.text(0));
         due.is("14: the other one stays", "b", ropes.text(1));
         due.is("14: acts", 7, ropes.house(4));
-        wrongRopes("14: rope", ropes, rope -> ropes.rope(rope, 0));
-        wrongRopes("14: other", ropes, other -> ropes.rope(0, other));
+        due.refusesEach(ropes, "14: rope", Due.NO_PLACE, Due.NO_ROPES, rope -> ropes.rope(rope, 0));
+        due.refusesEach(ropes, "14: other", Due.NO_PLACE, Due.NO_ROPES, other -> ropes.rope(0, other));
         Due.fill(ropes, 0, 121);
         due.refuses(ropes, "14: too long", Due.TOO_LONG, () -> ropes.rope(0, 0));
         Due.fill(ropes, 1, 120);
@@ -186,9 +183,9 @@ public final class LaidBehindTest {
         due.is("15: part of an empty one", 9, ropes.ropePart(1, 2, 0, 0));
         due.is("15: text", "abcbcabcb", ropes.text(1));
         due.is("15: acts", 8, ropes.house(4));
-        wrongRopes("15: ropePart", ropes, rope -> ropes.ropePart(rope, 0, 5, 2));
-        wrongRopes("15: other", ropes, other -> ropes.ropePart(0, other, 5, 2));
-        for (int[] part : new int[][] {{-1, 2}, {0, 7}, {3, 2}, {7, 7}, {Integer.MIN_VALUE, Integer.MAX_VALUE}}) {
+        due.refusesEach(ropes, "15: ropePart", Due.NO_PLACE, Due.NO_ROPES, rope -> ropes.ropePart(rope, 0, 5, 2));
+        due.refusesEach(ropes, "15: other", Due.NO_PLACE, Due.NO_ROPES, other -> ropes.ropePart(0, other, 5, 2));
+        for (int[] part : Due.NO_PARTS_OF_SIX) {
             due.refuses(ropes, "15: no part " + part[0] + " " + part[1], Due.NO_ARGUMENT,
                 () -> ropes.ropePart(1, 0, part[0], part[1]));
         }
@@ -196,21 +193,5 @@ public final class LaidBehindTest {
         due.refuses(ropes, "15: too long", Due.TOO_LONG, () -> ropes.ropePart(1, 0, 0, 2));
         due.refuses(ropes, "15: no part ahead of too long", Due.NO_ARGUMENT, () -> ropes.ropePart(1, 0, 0, 7));
         due.is("15: just full", 240, ropes.ropePart(1, 0, 5, 6));
-    }
-
-    interface CallOf {
-        Object answer(int number);
-    }
-
-    private static void wrongRopes(String told, Signrope ropes, CallOf call) {
-        for (int rope : new int[] {-1, 4, Integer.MIN_VALUE, Integer.MAX_VALUE}) {
-            due.refuses(ropes, told + " at rope " + rope, Due.NO_PLACE, () -> call.answer(rope));
-        }
-    }
-
-    private static void wrongWords(String told, Signrope ropes, CallOf call) {
-        for (int word : new int[] {-1, 70, Integer.MIN_VALUE, Integer.MAX_VALUE}) {
-            due.refuses(ropes, told + " of word " + word, Due.NO_ARGUMENT, () -> call.answer(word));
-        }
     }
 }

@@ -26,7 +26,7 @@ public final class PutInTest {
         due.is("16: into an empty one", 1, ropes.putWord(1, 0, 1));
         due.is("16: acts", 9, ropes.house(4));
         wrongPlaces("16: putWord", ropes, (rope, at) -> ropes.putWord(rope, at, 70));
-        wrongWords("16: putWord", ropes, word -> ropes.putWord(0, 0, word));
+        due.refusesEach(ropes, "16: putWord", Due.NO_ARGUMENT, Due.NO_WORDS, word -> ropes.putWord(0, 0, word));
         Due.fill(ropes, 0, 238);
         due.refuses(ropes, "16: too long", Due.TOO_LONG, () -> ropes.putWord(0, 0, 3));
         due.refuses(ropes, "16: wrong word ahead of too long", Due.NO_ARGUMENT, () -> ropes.putWord(0, 0, 70));
@@ -42,9 +42,7 @@ public final class PutInTest {
         due.is("17: text", "\377a\000bz", ropes.text(0));
         due.is("17: acts", 7, ropes.house(4));
         wrongPlaces("17: putSign", ropes, (rope, at) -> ropes.putSign(rope, at, 256));
-        for (int code : new int[] {-1, 256, Integer.MIN_VALUE, Integer.MAX_VALUE}) {
-            due.refuses(ropes, "17: sign " + code, Due.NO_ARGUMENT, () -> ropes.putSign(0, 0, code));
-        }
+        due.refusesEach(ropes, "17: sign", Due.NO_ARGUMENT, Due.NO_CODES, code -> ropes.putSign(0, 0, code));
         Due.fill(ropes, 0, 240);
         due.refuses(ropes, "17: too long", Due.TOO_LONG, () -> ropes.putSign(0, 240, 1));
         due.refuses(ropes, "17: wrong sign ahead of too long", Due.NO_ARGUMENT, () -> ropes.putSign(0, 0, -1));
@@ -99,7 +97,7 @@ public final class PutInTest {
         due.is("21: the word stays", "zzzz", ropes.wordText(67));
         due.is("21: acts", 8, ropes.house(4));
         wrongPlaces("21: putRow", ropes, (rope, at) -> ropes.putRow(rope, at, 70));
-        wrongWords("21: putRow", ropes, word -> ropes.putRow(0, 0, word));
+        due.refusesEach(ropes, "21: putRow", Due.NO_ARGUMENT, Due.NO_WORDS, word -> ropes.putRow(0, 0, word));
         Due.fill(ropes, 0, 235);
         due.refuses(ropes, "21: too long", Due.TOO_LONG, () -> ropes.putRow(0, 0, 69));
     }
@@ -113,8 +111,8 @@ public final class PutInTest {
         due.is("22: text", "abcabcarub{", ropes.text(0));
         due.is("22: acts", 8, ropes.house(4));
         wrongPlaces("22: putRowPart", ropes, (rope, at) -> ropes.putRowPart(rope, at, 70, 0, 0));
-        wrongWords("22: putRowPart", ropes, word -> ropes.putRowPart(0, 0, word, 0, 0));
-        for (int[] part : new int[][] {{-1, 2}, {0, 7}, {3, 2}, {7, 7}, {Integer.MIN_VALUE, Integer.MAX_VALUE}}) {
+        due.refusesEach(ropes, "22: putRowPart", Due.NO_ARGUMENT, Due.NO_WORDS, word -> ropes.putRowPart(0, 0, word, 0, 0));
+        for (int[] part : Due.NO_PARTS_OF_SIX) {
             due.refuses(ropes, "22: no part " + part[0] + " " + part[1], Due.NO_ARGUMENT,
                 () -> ropes.putRowPart(0, 0, 69, part[0], part[1]));
         }
@@ -146,7 +144,7 @@ public final class PutInTest {
         due.is("24: the other one stays", "{}", ropes.text(1));
         due.is("24: acts", 7, ropes.house(4));
         wrongPlaces("24: putRope", ropes, (rope, at) -> ropes.putRope(rope, at, 1));
-        wrongOthers("24: putRope", ropes, other -> ropes.putRope(0, 0, other));
+        due.refusesEach(ropes, "24: putRope", Due.NO_PLACE, Due.NO_ROPES, other -> ropes.putRope(0, 0, other));
         Due.fill(ropes, 0, 121);
         due.refuses(ropes, "24: too long", Due.TOO_LONG, () -> ropes.putRope(0, 60, 0));
         Due.fill(ropes, 1, 120);
@@ -161,8 +159,8 @@ public final class PutInTest {
         due.is("25: empty part", 9, ropes.putPart(1, 9, 0, 6, 6));
         due.is("25: acts", 7, ropes.house(4));
         wrongPlaces("25: putPart", ropes, (rope, at) -> ropes.putPart(rope, at, 0, 5, 2));
-        wrongOthers("25: putPart", ropes, other -> ropes.putPart(0, 0, other, 5, 2));
-        for (int[] part : new int[][] {{-1, 2}, {0, 7}, {3, 2}, {7, 7}, {Integer.MIN_VALUE, Integer.MAX_VALUE}}) {
+        due.refusesEach(ropes, "25: putPart", Due.NO_PLACE, Due.NO_ROPES, other -> ropes.putPart(0, 0, other, 5, 2));
+        for (int[] part : Due.NO_PARTS_OF_SIX) {
             due.refuses(ropes, "25: no part " + part[0] + " " + part[1], Due.NO_ARGUMENT,
                 () -> ropes.putPart(1, 0, 0, part[0], part[1]));
         }
@@ -170,10 +168,6 @@ public final class PutInTest {
         due.refuses(ropes, "25: too long", Due.TOO_LONG, () -> ropes.putPart(1, 5, 0, 0, 2));
         due.refuses(ropes, "25: no part ahead of too long", Due.NO_ARGUMENT, () -> ropes.putPart(1, 0, 0, 0, 7));
         due.is("25: just full", 240, ropes.putPart(1, 239, 0, 5, 6));
-    }
-
-    interface CallOf {
-        Object answer(int number);
     }
 
     interface CallAt {
@@ -186,18 +180,6 @@ public final class PutInTest {
         }
         for (int at : new int[] {-1, ropes.length(0) + 1, Integer.MIN_VALUE, Integer.MAX_VALUE}) {
             due.refuses(ropes, told + " at place " + at, Due.NO_PLACE, () -> call.answer(0, at));
-        }
-    }
-
-    private static void wrongOthers(String told, Signrope ropes, CallOf call) {
-        for (int other : new int[] {-1, 4, Integer.MIN_VALUE, Integer.MAX_VALUE}) {
-            due.refuses(ropes, told + " of rope " + other, Due.NO_PLACE, () -> call.answer(other));
-        }
-    }
-
-    private static void wrongWords(String told, Signrope ropes, CallOf call) {
-        for (int word : new int[] {-1, 70, Integer.MIN_VALUE, Integer.MAX_VALUE}) {
-            due.refuses(ropes, told + " of word " + word, Due.NO_ARGUMENT, () -> call.answer(word));
         }
     }
 }

@@ -41,9 +41,8 @@ public final class WholeTest {
         ropes.word(0, 0);
         ropes.putRope(0, 0, 0);
         due.is("46: acts that leave the text", "30 1 2 3 12", houseOf(ropes));
-        for (int what : new int[] {-1, 5, Integer.MIN_VALUE, Integer.MAX_VALUE}) {
-            due.refuses(ropes, "46: house " + what, Due.NO_ARGUMENT, () -> ropes.house(what));
-        }
+        due.refusesEach(ropes, "46: house", Due.NO_ARGUMENT, new int[] {-1, 5, Integer.MIN_VALUE, Integer.MAX_VALUE},
+            what -> ropes.house(what));
     }
 
     private static void isSound() {
