@@ -22,6 +22,14 @@ final class Due {
     private int calls;
     private int wrong;
 
+    int calls() {
+        return calls;
+    }
+
+    int wrong() {
+        return wrong;
+    }
+
     void is(String told, Object want, Object got) {
         calls++;
         if (!want.equals(got)) {
@@ -57,7 +65,7 @@ final class Due {
         for (int what = 0; what < 5; what++) {
             state.append("house ").append(ropes.house(what)).append(' ');
         }
-        return state.toString();
+        return state.append(ropes.digest()).toString();
     }
 
     /** An object whose ropes 0 to 3 bear the words. */
@@ -70,12 +78,23 @@ final class Due {
         return ropes;
     }
 
-    /** A rope is begun with that many signs: "abcabc" again and again. */
+    /** A rope is begun with that many signs, filledText: in few calls, as an object has 512 and no more. */
     static void fill(Signrope ropes, int rope, int signs) {
-        ropes.begin(rope, 0);
-        for (int k = 0; k < signs; k++) {
-            ropes.sign(rope, 'a' + k % 3);
+        ropes.begin(rope, 69);
+        while (ropes.length(rope) * 2 <= signs) {
+            ropes.rope(rope, rope);
         }
+        int has = ropes.length(rope);
+        if (signs < has) {
+            ropes.setLength(rope, signs);
+        } else {
+            ropes.ropePart(rope, rope, 0, signs - has);
+        }
+    }
+
+    /** "abcabc" again and again, that many signs in all. */
+    static String filledText(int signs) {
+        return "abc".repeat(signs / 3 + 1).substring(0, signs);
     }
 
     void end() {
