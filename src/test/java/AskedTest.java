@@ -28,8 +28,9 @@ public final class AskedTest {
         for (int code = 0; code < 240; code++) {
             ropes.sign(0, code + 16);
         }
+        String text = ropes.text(0);
         for (int place = 0; place < 240; place++) {
-            due.is("33: each sign", place + 16, (int) ropes.text(0).charAt(place));
+            due.is("33: each sign", place + 16, (int) text.charAt(place));
         }
         due.is("34: a full one", 240, ropes.length(0));
         due.refusesEach(ropes, "33: text of", Due.NO_PLACE, Due.NO_ROPES, rope -> ropes.text(rope));

@@ -68,8 +68,8 @@ final class EdgesOfChanged {
             edges.is("all of a full one", 6, Edges.full().replace(0, 0, 241, 69));
         });
         edges.noRope(26, (ropes, rope) -> ropes.replace(rope, 0, 0, 1));
-        edges.test(26, "Throws `IllegalArgumentException` if word is no number of a WORD, from is below 0 or behind the end, "
-            + "or from is above to", () -> {
+        edges.test(26, "Throws `IllegalArgumentException` if word is no number of a WORD, from is below 0 or behind the "
+            + "end, or from is above to", () -> {
                 edges.refusesEach(Due.NO_ARGUMENT, Due.NO_WORDS, (ropes, word) -> ropes.replace(0, 0, 0, word));
                 refusesNoCuts((ropes, rope, from, to) -> ropes.replace(rope, from, to, 0));
             });

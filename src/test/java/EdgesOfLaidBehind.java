@@ -196,6 +196,11 @@ final class EdgesOfLaidBehind {
             edges.is("none of an empty one", 8, ropes.ropePart(3, 2, 0, 0));
             edges.is("the last sign", 9, ropes.ropePart(3, 0, 5, 6));
             edges.is("text", "{}abcabcc", ropes.text(3));
+            Due.fill(ropes, 0, 240);
+            edges.is("the last sign of a full one", 10, ropes.ropePart(3, 0, 239, 240));
+            edges.is("none at the end of a full one", 10, ropes.ropePart(3, 0, 240, 240));
+            edges.is("all of a full one", 240, ropes.ropePart(2, 0, 0, 240));
+            edges.is("texts", "{}abcabccc " + Due.filledText(240), ropes.text(3) + " " + ropes.text(2));
         });
         edges.test(15, "whose TEXT (may be the same)", () -> {
             Signrope ropes = Edges.words();

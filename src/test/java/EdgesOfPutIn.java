@@ -208,10 +208,15 @@ final class EdgesOfPutIn {
             edges.is("none at 0", 8, ropes.putPart(3, 0, 0, 0, 0));
             edges.is("none at the end", 8, ropes.putPart(3, 8, 0, 6, 6));
             edges.is("none of an empty one", 8, ropes.putPart(3, 4, 2, 0, 0));
-            edges.is("the last sign", 9, ropes.putPart(3, 9 - 1, 0, 5, 6));
+            edges.is("the last sign", 9, ropes.putPart(3, 8, 0, 5, 6));
             edges.is("text", "{abcabc}c", ropes.text(3));
             ropes.setSign(0, 5, 'x');
             edges.is("what changes later does not show", "{abcabc}c", ropes.text(3));
+            Due.fill(ropes, 0, 240);
+            edges.is("the last sign of a full one", 10, ropes.putPart(3, 0, 0, 239, 240));
+            edges.is("none at the end of a full one", 10, ropes.putPart(3, 10, 0, 240, 240));
+            edges.is("all of a full one", 240, ropes.putPart(2, 0, 0, 0, 240));
+            edges.is("texts", "c{abcabc}c " + Due.filledText(240), ropes.text(3) + " " + ropes.text(2));
         });
         edges.test(25, "whose TEXT (may be the same)", () -> {
             Signrope ropes = Due.ropesOf(69, 69, 69, 0);

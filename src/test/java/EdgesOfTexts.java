@@ -167,6 +167,17 @@ final class EdgesOfTexts {
             ropes.number(0, number);
             edges.is("number", String.valueOf(number), ropes.text(0));
         }
+        long power = 1;
+        for (int zeros = 0; zeros <= 18; zeros++, power *= 10) {
+            for (long number : new long[] {power - 1, power, -power, 1 - power}) {
+                longStands(String.valueOf(number), highOf(number), (int) number);
+            }
+        }
+    }
+
+    /** The second number bears its sign, so the first one makes up for it. */
+    private static int highOf(long number) {
+        return (int) ((number - (int) number) >> 32);
     }
 
     private void lessByCode() {
@@ -202,6 +213,11 @@ final class EdgesOfTexts {
         Due.fill(ropes, 1, 240);
         Due.fill(ropes, 2, 239);
         edges.is("240 and 239", 1, ropes.compare(1, 2));
+        Signrope cut = Due.ropesOf(67, 69, 0, 0);
+        cut.putWord(0, 0, 2);
+        cut.setLength(0, 2);
+        edges.is("what was cut off counts no more", -1, cut.compare(0, 1));
+        edges.is("nor in the other one", 1, cut.compare(1, 0));
     }
 
     private void hashOfNothing() {

@@ -79,6 +79,10 @@ final class EdgesOfWhole {
         edges.is("all full", 6, full.house(3));
         full.setSign(0, 239, 0);
         edges.is("the last of 240 signs", 3, full.house(3));
+        Signrope cut = Due.ropesOf(3, 62, 1, 0);
+        cut.setLength(0, 2);
+        cut.delete(1, 2, 4);
+        edges.is("what was cut off counts no more", 1, cut.house(3));
         Signrope sameHash = sameHash();
         edges.is("the same HASH", sameHash.hash(0), sameHash.hash(1));
         edges.is("another TEXT all the same", 0, sameHash.house(3));

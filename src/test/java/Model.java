@@ -8,6 +8,10 @@ final class Model {
     private int refused;
     private int acts;
 
+    int length(int rope) {
+        return ropes[rope].length();
+    }
+
     /** The answer to a call of that name, or throws what the call throws. */
     Object answer(String name, int[] n, boolean is) {
         switch (name) {

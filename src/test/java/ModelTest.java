@@ -7,6 +7,8 @@ import java.util.Comparator;
 public final class ModelTest {
     private static final int RUNS = 1200;
     private static final int CALLS = 512;
+    // At the end of a run each rope's text is asked.
+    private static final int LAST_CALLS = 4;
     private static final int[] ODD = {Integer.MIN_VALUE, Integer.MAX_VALUE, -9, -1, 0, 1, 69, 70, 240, 241, 255, 256};
 
     private static final Due due = new Due();
@@ -32,10 +34,11 @@ public final class ModelTest {
     private static void run(int run, Method[] calls, int[] answered, int[] threw) throws Exception {
         Signrope ropes = new Signrope();
         Model model = new Model();
-        for (int k = 0; k < CALLS; k++) {
+        int made = 0;
+        for (int k = 0; made + 2 <= CALLS - LAST_CALLS; k++) {
             int which = below(calls.length);
             Method call = calls[which];
-            int[] numbers = numbersFor(call, ropes);
+            int[] numbers = numbersFor(call, model);
             boolean is = below(2) == 0;
             Object want;
             try {
@@ -47,9 +50,11 @@ public final class ModelTest {
             }
             String told = "run " + run + " call " + k + ": " + call.getName() + Arrays.toString(numbers) + " " + is;
             due.is(told, want, answerOf(ropes, call, numbers, is));
+            made++;
             // The digest goes over each text, so nothing that a call changes wrongly stays unseen for long.
             if (k % 8 == 0 || want instanceof Class) {
                 due.is(told + ", then digest", model.answer("digest", numbers, is), ropes.digest());
+                made++;
             }
         }
         for (int rope = 0; rope < 4; rope++) {
@@ -72,7 +77,7 @@ public final class ModelTest {
     }
 
     // A number is drawn after its parameter's meaning, as the position alone would seldom hit a valid call.
-    private static int[] numbersFor(Method call, Signrope ropes) {
+    private static int[] numbersFor(Method call, Model model) {
         int[] numbers = new int[5];
         String name = call.getName();
         for (int k = 0; k < numbers.length; k++) {
@@ -84,13 +89,13 @@ public final class ModelTest {
             } else if (kind < 4) {
                 numbers[k] = below(260) - 4;
             } else {
-                numbers[k] = likely(name, k, numbers, ropes);
+                numbers[k] = likely(name, k, numbers, model);
             }
         }
         return numbers;
     }
 
-    private static int likely(String name, int k, int[] numbers, Signrope ropes) {
+    private static int likely(String name, int k, int[] numbers, Model model) {
         int rope = Math.floorMod(numbers[0], 4);
         switch (name) {
             case "wordText":
@@ -115,26 +120,26 @@ public final class ModelTest {
             case "rope":
                 return below(4);
             case "findFrom":
-                return k == 1 ? below(70) : below(ropes.length(rope) + 3) - 1;
+                return k == 1 ? below(70) : below(model.length(rope) + 3) - 1;
             case "rowPart":
                 return k == 1 ? below(70) : below(5);
             case "ropePart":
-                return k == 1 ? below(4) : placeNear(ropes, Math.floorMod(numbers[1], 4), k == 3 ? numbers[2] : 0);
+                return k == 1 ? below(4) : placeNear(model, Math.floorMod(numbers[1], 4), k == 3 ? numbers[2] : 0);
             case "replace":
-                return k == 3 ? below(70) : placeNear(ropes, rope, k == 2 ? numbers[1] : 0);
+                return k == 3 ? below(70) : placeNear(model, rope, k == 2 ? numbers[1] : 0);
             case "replaceBy":
-                return k == 3 ? below(4) : placeNear(ropes, rope, k == 2 ? numbers[1] : 0);
+                return k == 3 ? below(4) : placeNear(model, rope, k == 2 ? numbers[1] : 0);
             case "delete":
             case "part":
-                return placeNear(ropes, rope, k == 2 ? numbers[1] : 0);
+                return placeNear(model, rope, k == 2 ? numbers[1] : 0);
             default:
-                return likelyPut(name, k, numbers, ropes);
+                return likelyPut(name, k, numbers, model);
         }
     }
 
-    private static int likelyPut(String name, int k, int[] numbers, Signrope ropes) {
+    private static int likelyPut(String name, int k, int[] numbers, Model model) {
         if (k == 1) {
-            return placeNear(ropes, Math.floorMod(numbers[0], 4), 0);
+            return placeNear(model, Math.floorMod(numbers[0], 4), 0);
         }
         switch (name) {
             case "putNumber":
@@ -148,14 +153,14 @@ public final class ModelTest {
             case "putRowPart":
                 return k == 2 ? below(70) : below(5);
             case "putPart":
-                return k == 2 ? below(4) : placeNear(ropes, Math.floorMod(numbers[2], 4), k == 4 ? numbers[3] : 0);
+                return k == 2 ? below(4) : placeNear(model, Math.floorMod(numbers[2], 4), k == 4 ? numbers[3] : 0);
             default:
                 return below(70);
         }
     }
 
-    private static int placeNear(Signrope ropes, int rope, int from) {
-        int left = ropes.length(rope) - from;
+    private static int placeNear(Model model, int rope, int from) {
+        int left = model.length(rope) - from;
         return left < 0 ? from - below(3) : from + below(left + (below(6) == 0 ? 4 : 1));
     }
 
