@@ -37,10 +37,10 @@ final class Edges {
         try {
             test.run();
         } catch (RuntimeException thrown) {
-            is("ends without", "an exception", thrown.toString());
+            is("ends", "without an exception", thrown.toString());
         }
         if (due.calls() == before) {
-            is("asks", "something", "nothing");
+            is("asks", "something", "nothing at all");
         }
         title = "";
     }
