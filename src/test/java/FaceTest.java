@@ -1,56 +1,90 @@
+import java.io.IOException;
 import java.lang.reflect.Constructor;
+import java.lang.reflect.Executable;
 import java.lang.reflect.Field;
 import java.lang.reflect.Method;
 import java.lang.reflect.Modifier;
+import java.nio.charset.StandardCharsets;
+import java.nio.file.Files;
+import java.nio.file.Path;
+import java.util.ArrayList;
+import java.util.List;
 import java.util.Set;
+import java.util.StringJoiner;
 import java.util.TreeSet;
+import java.util.regex.Matcher;
+import java.util.regex.Pattern;
 
-/** The class has the document's public face and nothing beside it (LANGUAGE.md, rule 1). */
+/** The class has the face that the document shows and nothing beside it (LANGUAGE.md, rule 1); run from the project's folder. */
 public final class FaceTest {
-    private static final String I = "IndexOutOfBoundsException";
-    private static final String A = "IllegalArgumentException";
-    private static final String S = "IllegalStateException";
+    private static final Pattern SHOWN = Pattern.compile("(?m)^    public (.*\\)[^;\n]*);$");
+    private static final Pattern PROMISED = Pattern.compile("(?m)^## Promise \\d+: .*\n\n`(.*)`$");
+    private static final Pattern WRITTEN = Pattern.compile("(?m)^    public ([^;{=]*\\)[^;{=]*?)\\s*\\{");
 
-    // Return type, name, parameter types (i int, b boolean) and exceptions, as the document writes them.
-    private static final String[] FACE = {
-        "int begin ii " + I + A, "int beginAs ii " + I, "int ensure ii " + I + A, "int word ii " + I + A + S,
-        "int sign ii " + I + A + S, "int point ii " + I + A + S, "int number ii " + I + S,
-        "int longNumber iii " + I + S, "int truth ib " + I + S, "int row ii " + I + A + S,
-        "int rowPart iiii " + I + A + S, "int nothing ib " + I + S, "int rope ii " + I + S,
-        "int ropePart iiii " + I + A + S, "int putWord iii " + I + A + S, "int putSign iii " + I + A + S,
-        "int putNumber iii " + I + S, "int putLong iiii " + I + S, "int putTruth iib " + I + S,
-        "int putRow iii " + I + A + S, "int putRowPart iiiii " + I + A + S, "int putNothing iib " + I + S,
-        "int putRope iii " + I + S, "int putPart iiiii " + I + A + S, "int replace iiii " + I + A + S,
-        "int replaceBy iiii " + I + A + S, "int delete iii " + I + A, "int deleteAt ii " + I,
-        "int setSign iii " + I + A, "int turn i " + I, "int setLength ii " + I + A, "String text i " + I,
-        "int length i " + I, "int at ii " + I, "String part iii " + I + A, "String rest ii " + I + A,
-        "int find iib " + I + A, "int findFrom iiib " + I + A, "int findNothing ib " + I, "int compare ii " + I,
-        "int compareNothing i " + I, "int hash i " + I, "String wordText i " + A, "int knock  ", "int house i " + A,
-        "boolean isSound  ", "long digest  "};
+    private static final Due due = new Due();
 
-    public static void main(String[] args) {
-        Due due = new Due();
+    public static void main(String[] args) throws IOException {
+        String document = Files.readString(Path.of("../shared/DOC.md"), StandardCharsets.UTF_8);
+        String source = Files.readString(Path.of("src/main/java/Signrope.java"), StandardCharsets.UTF_8);
+        List<String> shown = signatures(SHOWN, document);
+        due.is("signatures are read from the document", 48, shown.size());
+        sameInOrder("the promises' signatures", shown, signatures(PROMISED, document));
+        sameInOrder("the source, with the parameters' names,", shown, signatures(WRITTEN, source));
+        members(shown);
+        inner();
+        due.is("the class", Modifier.PUBLIC | Modifier.FINAL, Signrope.class.getModifiers());
+        due.is("its package", "", Signrope.class.getPackageName());
+        due.end();
+    }
+
+    private static List<String> signatures(Pattern pattern, String text) {
+        List<String> found = new ArrayList<>();
+        for (Matcher matcher = pattern.matcher(text); matcher.find();) {
+            found.add(matcher.group(1).replaceAll("\\s+", " "));
+        }
+        return found;
+    }
+
+    private static void sameInOrder(String told, List<String> want, List<String> got) {
+        due.is(told + " are as many", want.size(), got.size());
+        for (int k = 0; k < Math.min(want.size(), got.size()); k++) {
+            due.is(told + " at " + (k + 1), want.get(k), got.get(k));
+        }
+    }
+
+    private static void members(List<String> shown) {
+        Set<String> want = new TreeSet<>();
+        for (String signature : shown) {
+            want.add(signature.replaceAll("(int|boolean) \\w+(?=[,)])", "$1"));
+        }
         Set<String> found = new TreeSet<>();
-        Set<String> names = new TreeSet<>();
+        Set<String> names = publicNames();
+        for (Constructor<?> constructor : Signrope.class.getDeclaredConstructors()) {
+            found.add(told("Signrope", constructor));
+        }
         for (Method method : Signrope.class.getDeclaredMethods()) {
             if (Modifier.isPublic(method.getModifiers())) {
-                found.add(told(method));
-                names.add(method.getName());
+                found.add(told(method.getReturnType().getSimpleName() + " " + method.getName(), method));
                 due.is(method.getName() + " is static", false, Modifier.isStatic(method.getModifiers()));
-            }
-        }
-        due.is("the face", new TreeSet<>(Set.of(FACE)), found);
-        for (Method method : Signrope.class.getDeclaredMethods()) {
-            if (!Modifier.isPublic(method.getModifiers())) {
+            } else {
                 due.is(method.getName() + " is private", true, Modifier.isPrivate(method.getModifiers()));
                 due.is(method.getName() + " bears a public name", false, names.contains(method.getName()));
             }
         }
+        Set<String> beside = new TreeSet<>(found);
+        beside.removeAll(want);
+        want.removeAll(found);
+        due.is("what the face shows and the class lacks", Set.of(), want);
+        due.is("what the class has beside the face", Set.of(), beside);
         for (Field field : Signrope.class.getDeclaredFields()) {
             due.is(field.getName() + " is private", true, Modifier.isPrivate(field.getModifiers()));
             boolean isStatic = Modifier.isStatic(field.getModifiers());
             due.is(field.getName() + " is final if static", true, !isStatic || Modifier.isFinal(field.getModifiers()));
         }
+    }
+
+    private static void inner() {
+        Set<String> names = publicNames();
         for (Class<?> inner : Signrope.class.getDeclaredClasses()) {
             due.is(inner.getName() + " is static", true, Modifier.isStatic(inner.getModifiers()));
             due.is(inner.getName() + " is public", false, Modifier.isPublic(inner.getModifiers()));
@@ -58,25 +92,28 @@ public final class FaceTest {
                 due.is(method.getName() + " bears a public name", false, names.contains(method.getName()));
             }
         }
-        Constructor<?>[] constructors = Signrope.class.getDeclaredConstructors();
-        due.is("constructors", 1, constructors.length);
-        due.is("its parameters", 0, constructors[0].getParameterCount());
-        due.is("it is public", true, Modifier.isPublic(constructors[0].getModifiers()));
-        due.is("the class", Modifier.PUBLIC | Modifier.FINAL, Signrope.class.getModifiers());
-        due.is("its package", "", Signrope.class.getPackageName());
-        due.end();
     }
 
-    private static String told(Method method) {
-        StringBuilder told = new StringBuilder();
-        told.append(method.getReturnType().getSimpleName()).append(' ').append(method.getName()).append(' ');
-        for (Class<?> type : method.getParameterTypes()) {
-            told.append(type.getSimpleName().charAt(0));
+    private static Set<String> publicNames() {
+        Set<String> names = new TreeSet<>();
+        for (Method method : Signrope.class.getDeclaredMethods()) {
+            if (Modifier.isPublic(method.getModifiers())) {
+                names.add(method.getName());
+            }
         }
-        told.append(' ');
-        for (Class<?> type : method.getExceptionTypes()) {
-            told.append(type.getSimpleName());
+        return names;
+    }
+
+    /** A member as the document writes it, but for the parameters' names; what is not public says so. */
+    private static String told(String name, Executable member) {
+        StringJoiner types = new StringJoiner(", ", "(", ")");
+        for (Class<?> type : member.getParameterTypes()) {
+            types.add(type.getSimpleName());
         }
-        return told.toString();
+        StringJoiner thrown = new StringJoiner(", ", " throws ", "").setEmptyValue("");
+        for (Class<?> type : member.getExceptionTypes()) {
+            thrown.add(type.getSimpleName());
+        }
+        return (Modifier.isPublic(member.getModifiers()) ? "" : "not public: ") + name + types + thrown;
     }
 }
